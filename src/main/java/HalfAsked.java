@@ -445,7 +445,7 @@ public final class HalfAsked {
         state.takeFrom(folk);
         for (int i = 0; i < plan.size; i++) {
             if (plan.by[i] == other && plan.of[i] == person) {
-                plan.endWeek(state, i);
+                plan.endWeekIfDue(state, i);
             } else {
                 plan.goOn(state, i);
             }
@@ -592,11 +592,15 @@ public final class HalfAsked {
         /** The i-th asking, left out if it is not lawful, and the end of a week behind it. */
         void goOn(Folk state, int i) {
             state.giveIfLawful(by[i], of[i]);
-            endWeek(state, i);
+            endWeekIfDue(state, i);
         }
 
-        void endWeek(Folk state, int i) {
-            if ((ends & (1 << i)) != 0) {
+        boolean endsWeek(int i) {
+            return (ends & (1 << i)) != 0;
+        }
+
+        void endWeekIfDue(Folk state, int i) {
+            if (endsWeek(i)) {
                 state.asked = 0;
             }
         }
@@ -779,6 +783,7 @@ public final class HalfAsked {
     private static final class Timing {
         // A way is its row of times as digits, so that the first of two rows is the lesser number.
         private static final int[] WEIGHT = {10000, 1000, 100, 10, 1};
+        private static final int ALL = (1 << PLACES) - 1;
 
         int most = 0;
         private int way = 0;
@@ -809,13 +814,27 @@ public final class HalfAsked {
                 return;
             }
             Folk next = states[time + 1];
-            // Every set of those left, each a lesser number than the one before, down to nobody.
-            for (int some = left; some >= 0; some = some > 0 ? (some - 1) & left : -1) {
+            int open = left & worthAsking(time);
+            // Every set of these, each a lesser number than the one before, down to nobody.
+            for (int some = open; some >= 0; some = some > 0 ? (some - 1) & open : -1) {
                 next.takeFrom(states[time]);
                 int more = askAll(next, some, time);
                 plan.goOn(next, time);
                 choose(time + 1, left & ~some, chosen + more);
             }
+        }
+
+        /**
+         * Whom to ask at a time may be other than to ask them at the time before: if the plan's asking
+         * between neither touches one nor takes from the asker, nor ends a week, the earlier time does
+         * the same and comes first.
+         */
+        private int worthAsking(int time) {
+            int step = time - 1;
+            if (step < 0 || plan.endsWeek(step) || plan.of[step] == asker) {
+                return ALL;
+            }
+            return (1 << plan.by[step]) | (1 << plan.of[step]);
         }
 
         /** Asks all of a set by their numbers; answers what that adds to the way. */
