@@ -193,6 +193,7 @@ public final class PromisesTest {
         due("9 all else stays: askings", x.count(2), 1);
         due("9 all else stays: plan", x.count(3), 2);
         due("9 all else stays: known", x.told(0, 3), 28);
+        due("9 what was tried ahead of it leaves nothing", x.shun(0), 1);
         due("9 blanks, zeros", Check.people(x, "  w  0000000000009999 , f 00 ,c1"), 3);
         due("9 pence", x.told(0, 1), 9999);
         due("9 nothing", x.told(1, 1), 0);
@@ -417,12 +418,11 @@ public final class PromisesTest {
         x.ask(0, 1);
         x.knows(1, 2, false);
         x.image();
-        Check.type(x, "f");
         x.sheet(0, 1, 3);
         x.week();
         x.knows(1, 2, true);
         x.set(2, 1);
-        Check.people(x, "w9");
+        due("22 others in their place", Check.people(x, "w9"), 1);
         Check.type(x, "f4");
         for (int again = 0; again < 2; again++) {
             due("22 restored", x.restore(), 1);
@@ -433,9 +433,18 @@ public final class PromisesTest {
             due("22 plan", x.count(3), 2);
             due("22 weeks", x.count(4), 1);
             x.set(0, 99);
-            Check.plan(Check.with("f1,f1", ""), "0>1");
+            x.week();
+            x.knows(0, 2, false);
+            x.person(3, 3);
         }
         due("22 the tape stays", x.type(32, 1), 3);
+        Check.type(x, ",f5");
+        due("22 as it was typed", x.people(), 2);
+        Check.plan(x, "1>0");
+        x.restore();
+        x.week();
+        due("22 the plan that was", x.run(), 1);
+        due("22 and what it gives", x.told(0, 1), 9);
         due("22 sheets stay", x.drop(0), 3);
     }
 
@@ -464,6 +473,8 @@ public final class PromisesTest {
         due("23 missing", x.who(1, 2, 0, 1, -1), NULL);
         due("23 lane", x.who(0, 1, 9, 1, -1), CAST);
         for (int from : new int[] {1, -1, MIN, MAX}) due("23 from " + from, x.who(0, 2, from, 1, -1), INDEX);
+        x.item(0, 2, 3, 11);
+        due("23 of other sums by the first alone", x.who(0, 2, 0, 1, -1), NONE);
         x.item(0, 2, 5, 100000);
         due("23 not told", x.who(0, 2, 0, 1, -1), NOT);
         x.item(0, 2, 5, -1);
