@@ -637,13 +637,13 @@ public final class HalfAsked {
         int readFolk(Folk folk) {
             folk.clear();
             at = 0;
-            for (int last = PLACES - 1; last >= 0; last--) {
+            for (int more = PLACES - 1; more >= 0; more--) {
                 int kind = KINDS.indexOf(look());
                 if (kind < 0) {
                     return fault(at);
                 }
                 at++;
-                look();
+                skipBlanks();
                 int start = at;
                 int pence = readNumber();
                 if (pence < 0 || pence > PENCE_SET) {
@@ -654,7 +654,7 @@ public final class HalfAsked {
                 if (next == END) {
                     return folk.size;
                 }
-                if (next != ',' || last == 0) {
+                if (next != ',' || more == 0) {
                     return fault(at);
                 }
                 at++;
@@ -665,7 +665,7 @@ public final class HalfAsked {
         int readPlan(Plan plan, int people) {
             plan.clear();
             at = 0;
-            for (int last = PLAN_PLACES - 1; last >= 0; last--) {
+            for (int more = PLAN_PLACES - 1; more >= 0; more--) {
                 if (!readAsking(plan, people)) {
                     return fault(at);
                 }
@@ -677,7 +677,7 @@ public final class HalfAsked {
                 if (look() == END) {
                     return plan.size;
                 }
-                if (last == 0 || (next != ',' && next != ';')) {
+                if (more == 0 || (next != ',' && next != ';')) {
                     return fault(at);
                 }
                 if (next == ',') {
@@ -719,10 +719,14 @@ public final class HalfAsked {
 
         /** The next sign that is no blank, which is not passed. */
         private char look() {
+            skipBlanks();
+            return at < size ? signs[at] : END;
+        }
+
+        private void skipBlanks() {
             while (at < size && signs[at] == BLANK) {
                 at++;
             }
-            return at < size ? signs[at] : END;
         }
 
         private static int fault(int place) {
