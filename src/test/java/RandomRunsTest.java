@@ -1,9 +1,6 @@
-import java.lang.reflect.Method;
 import java.util.ArrayList;
 import java.util.Arrays;
-import java.util.HashMap;
 import java.util.List;
-import java.util.Map;
 import java.util.Random;
 
 /** Random runs of calls, each answer held against the model's. */
@@ -14,11 +11,10 @@ public final class RandomRunsTest {
         Integer.MIN_VALUE, -2, -1, 5, 6, 7, 9, 24, 25, 31, 32, 9999, 10000, 99999, 100000, Integer.MAX_VALUE};
 
     private final Check check = new Check();
-    private final Map<String, Method> real = methodsOf(HalfAsked.class);
-    private final Map<String, Method> plain = methodsOf(Model.class);
     private final Random random;
-    private final HalfAsked x = new HalfAsked();
     private final Model m = new Model();
+    private final Calls real = new Calls(new HalfAsked());
+    private final Calls plain = new Calls(m);
     private final List<String> calls = new ArrayList<>();
     private final int greatest;
 
@@ -27,36 +23,12 @@ public final class RandomRunsTest {
         greatest = new int[] {3, 12, 40, 300, 9999}[random.nextInt(5)];
     }
 
-    private static Map<String, Method> methodsOf(Class<?> type) {
-        Map<String, Method> found = new HashMap<>();
-        for (Method method : type.getDeclaredMethods()) {
-            if (java.lang.reflect.Modifier.isPublic(method.getModifiers())) {
-                method.setAccessible(true);
-                found.put(method.getName(), method);
-            }
-        }
-        return found;
-    }
-
-    private static long answer(Object target, Method method, long... args) {
-        Object[] boxed = new Object[args.length];
-        for (int i = 0; i < args.length; i++) {
-            Class<?> type = method.getParameterTypes()[i];
-            boxed[i] = type == boolean.class ? (Object) (args[i] != 0) : type == int.class ? (Object) (int) args[i] : args[i];
-        }
-        try {
-            return ((Number) method.invoke(target, boxed)).longValue();
-        } catch (ReflectiveOperationException e) {
-            System.out.println(method.getName() + " threw " + e.getCause());
-            return Long.MIN_VALUE;
-        }
-    }
-
     private long call(String name, long... args) {
         String text = name + Arrays.toString(args);
-        long want = answer(m, plain.get(name), args);
+        long want = plain.make(name, args);
         calls.add(text + " -> " + want);
-        check.due(text, answer(x, real.get(name), args), want);
+        check.due(text, real.make(name, args), want);
+        check.holds(text + " throws nothing", want != Calls.THREW);
         return want;
     }
 
