@@ -157,6 +157,7 @@ public final class TermsEdgesTest {
             "when 2 3 = 0", "when 2 4 = 3");
         edge("MOST: behind one who takes from him", "people 'f1,f8,f8,f8'", "knows 0 1 false", "plan '1>0,1>0,1>0;'", "most 0 = 8", "when 0 1 = 0", "when 0 2 = 1",
             "when 0 3 = 1");
+        edge("MOST: behind one who takes from whom he asks", "people 'w7,t9,t6'", "plan '2>1,1>0'", "most 0 = 12", "when 0 1 = 1", "when 0 2 = 2");
         edge("MOST: behind the end of a WEEK that has nothing else to do with it", "people 'f0,f8,f0,f1'", "ask 0 1", "plan '2>3;2>3,2>3'", "most 0 = 7", "when 0 1 = 1",
             "when 0 2 = 0", "when 0 3 = 0");
         edge("MOST: of THE PLAN alone, not of one that was", "people 'f0,f8,f0'", "knows 0 1 false", "plan '2>1,2>1;'", "most 0 = 2", "when 0 2 = 1",
