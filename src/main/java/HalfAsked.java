@@ -102,11 +102,8 @@ public final class HalfAsked {
         if (!folk.isPair(a, b)) {
             return BAD;
         }
-        if (!folk.isLawful(a, b)) {
-            return NOT;
-        }
         forgetFound();
-        return folk.give(a, b);
+        return folk.tryAsking(a, b);
     }
 
     public int week() {
@@ -170,8 +167,8 @@ public final class HalfAsked {
     public int run() {
         forgetFound();
         int done = 0;
-        while (done < plan.size && folk.isLawful(plan.by[done], plan.of[done])) {
-            plan.goOn(folk, done);
+        while (done < plan.size && folk.tryAsking(plan.by[done], plan.of[done]) != NOT) {
+            plan.endWeekIfDue(folk, done);
             done++;
         }
         return done;
@@ -536,29 +533,23 @@ public final class HalfAsked {
                 case THIRD:
                     return has / 3;
                 case WIDOW:
-                    return Math.max(0, has - WIDOW_KEEPS);
+                    return has > WIDOW_KEEPS ? has - WIDOW_KEEPS : 0;
                 default:
                     return has - has / 2;
             }
         }
 
-        boolean isLawful(int a, int b) {
+        /** An asking: what is given, or NOT if it is not lawful, and so not done. */
+        int tryAsking(int a, int b) {
             int pair = pair(a, b);
-            return (known & pair) != 0 && (asked & pair) == 0 && pence[b] > 0;
-        }
-
-        int give(int a, int b) {
+            if ((known & pair) == 0 || (asked & pair) != 0 || pence[b] <= 0) {
+                return NOT;
+            }
             int given = gives(b);
             pence[b] -= given;
             pence[a] += given;
-            asked |= pair(a, b);
+            asked |= pair;
             return given;
-        }
-
-        void giveIfLawful(int a, int b) {
-            if (isLawful(a, b)) {
-                give(a, b);
-            }
         }
     }
 
@@ -591,7 +582,7 @@ public final class HalfAsked {
 
         /** The i-th asking, left out if it is not lawful, and the end of a week behind it. */
         void goOn(Folk state, int i) {
-            state.giveIfLawful(by[i], of[i]);
+            state.tryAsking(by[i], of[i]);
             endWeekIfDue(state, i);
         }
 
@@ -846,7 +837,7 @@ public final class HalfAsked {
             int added = 0;
             for (int other = 0; other < state.size; other++) {
                 if ((some & (1 << other)) != 0) {
-                    state.giveIfLawful(asker, other);
+                    state.tryAsking(asker, other);
                     added += time * WEIGHT[other];
                 }
             }
@@ -884,9 +875,8 @@ public final class HalfAsked {
             settle(turn + 1);
             keep(turn, NOBODY);
             for (int other = 0; other < state.size; other++) {
-                if (other != turn && state.isLawful(turn, other)) {
-                    next.takeFrom(state);
-                    next.give(turn, other);
+                next.takeFrom(state);
+                if (other != turn && next.tryAsking(turn, other) != NOT) {
                     settle(turn + 1);
                     if (ended[turn + 1][turn] > ended[turn][turn]) {
                         keep(turn, other);
@@ -934,7 +924,7 @@ public final class HalfAsked {
                 if ((used & (1 << place)) == 0) {
                     row[depth] = place;
                     next.takeFrom(states[depth]);
-                    next.giveIfLawful(plan.by[place], plan.of[place]);
+                    next.tryAsking(plan.by[place], plan.of[place]);
                     extend(depth + 1, used | (1 << place));
                 }
             }
@@ -998,10 +988,9 @@ public final class HalfAsked {
             Folk next = states[depth + 1];
             for (int a = 0; a < state.size; a++) {
                 for (int b = 0; b < state.size; b++) {
-                    if (a != b && state.isLawful(a, b)) {
+                    next.takeFrom(state);
+                    if (a != b && next.tryAsking(a, b) != NOT) {
                         row[depth] = 10 * a + b;
-                        next.takeFrom(state);
-                        next.give(a, b);
                         trace(depth + 1);
                     }
                 }

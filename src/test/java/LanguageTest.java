@@ -11,17 +11,19 @@ import java.util.Set;
 import java.util.regex.Matcher;
 import java.util.regex.Pattern;
 
-/** Those rules of LANGUAGE.md that can be seen from the class and its file, and the room that calls take. */
+/** Those rules of LANGUAGE.md that can be seen from the class and its file. */
 public final class LanguageTest {
     private static final Check check = new Check();
+    private static final Path FILE = Path.of("src/main/java/HalfAsked.java");
+    /** Of what rule 4 lists only what the class uses, so that more is looked up there before it is added here. */
+    private static final Set<String> LIBRARY = Set.of("Integer.bitCount(int)", "Math.max(int,int)", "Math.min(int,int)",
+        "String.indexOf(int)", "System.arraycopy(java.lang.Object,int,java.lang.Object,int,int)");
 
     public static void main(String[] args) throws IOException {
-        String code = codeOf(Files.readString(Path.of("src/main/java/HalfAsked.java")));
+        String code = codeOf(Files.readString(FILE));
         words(code);
-        methods(code);
+        source(Source.read(FILE));
         face();
-        classes();
-        room();
         check.end("language");
     }
 
@@ -42,18 +44,42 @@ public final class LanguageTest {
         }
     }
 
-    /** Methods stay short and take at most seven parameters. */
-    private static void methods(String code) {
-        String[] lines = code.split("\n");
-        Pattern head = Pattern.compile("^( {4}| {8})(?! |return|else|new)[\\w\\[\\] ]+\\w\\(([^;]*)\\) \\{$");
-        for (int i = 0; i < lines.length; i++) {
-            Matcher m = head.matcher(lines[i]);
-            if (!m.matches() || lines[i].trim().matches("(if|for|while|switch|\\}).*")) continue;
-            int end = i;
-            while (end < lines.length && !lines[end].equals(m.group(1) + "}")) end++;
-            check.holds("11 short: " + lines[i].trim(), end - i <= 60);
-            check.holds("11 parameters: " + lines[i].trim(), m.group(2).split(",").length <= 7);
+    /** What the compiler's own reading of the file tells: what stands in it, and who calls whom. */
+    private static void source(Source source) {
+        check.holds("not as the rules say: " + source.forbidden, source.forbidden.isEmpty());
+        for (String call : source.library) check.holds("4 not in the list: " + call, LIBRARY.contains(call));
+        source.fields.forEach((name, many) -> check.holds("11 fields of " + name, many <= 20));
+        check.holds("11 classes", source.fields.size() <= 12);
+        check.holds("all methods are read", source.bodies.size() > 60);
+        for (Source.Body body : source.bodies.values()) {
+            check.holds("11 short: " + body.name, body.lines <= 60);
+            check.holds("11 parameters: " + body.name, body.parameters <= 7);
+            check.holds("11 " + body.name + " goes " + depth(body, new ArrayList<>()) + " deep", depth(body, new ArrayList<>()) <= 8);
+            check.holds("8 private: " + body.name, body.isPrivate || !body.calls.contains(body));
+            for (Source.Body called : body.calls) {
+                check.holds("8 " + body.name + " and " + called.name, called == body || !reaches(called, body, new HashSet<>()));
+            }
         }
+    }
+
+    /** How many calls stand open at once, the library's too, if a method that calls itself counts once. */
+    private static int depth(Source.Body body, List<Source.Body> open) {
+        int deepest = body.callsLibrary ? 1 : 0;
+        open.add(body);
+        for (Source.Body called : body.calls) {
+            if (!open.contains(called)) deepest = Math.max(deepest, depth(called, open));
+        }
+        open.remove(body);
+        return deepest + 1;
+    }
+
+    private static boolean reaches(Source.Body from, Source.Body to, Set<Source.Body> seen) {
+        if (from == to) return true;
+        boolean reached = false;
+        if (seen.add(from)) {
+            for (Source.Body called : from.calls) reached |= reaches(called, to, seen);
+        }
+        return reached;
     }
 
     private static void face() {
@@ -77,45 +103,5 @@ public final class LanguageTest {
         }
         check.due("1 constructors", HalfAsked.class.getDeclaredConstructors().length, 1);
         check.holds("1 final", Modifier.isFinal(HalfAsked.class.getModifiers()));
-    }
-
-    private static void classes() {
-        List<Class<?>> all = new ArrayList<>(List.of(HalfAsked.class.getDeclaredClasses()));
-        for (Class<?> inside : all) check.holds("2 static: " + inside, Modifier.isStatic(inside.getModifiers()));
-        all.add(HalfAsked.class);
-        check.holds("11 classes", all.size() <= 12);
-        for (Class<?> type : all) {
-            int own = 0;
-            for (java.lang.reflect.Field f : type.getDeclaredFields()) {
-                boolean isStatic = Modifier.isStatic(f.getModifiers());
-                own += isStatic ? 0 : 1;
-                check.holds("5 static is final: " + f, !isStatic || Modifier.isFinal(f.getModifiers()));
-            }
-            check.holds("11 fields of " + type, own <= 20);
-        }
-    }
-
-    /** The dearest searches, over and over, make nothing that could fill the room. */
-    private static void room() {
-        com.sun.management.ThreadMXBean threads =
-            (com.sun.management.ThreadMXBean) java.lang.management.ManagementFactory.getThreadMXBean();
-        HalfAsked x = Check.with("f9000,c8000,t7000,w600,f500", "0>1,1>2;2>3,3>4,4>0;0>2,2>4,1>3");
-        x.sheet(0, 2, 24);
-        x.film(0, 2, 0);
-        x.film(0, 2, 5);
-        long before = threads.getThreadAllocatedBytes(Thread.currentThread().getId());
-        for (int i = 0; i < 100; i++) {
-            x.week();
-            x.most(i % 5);
-            x.when(i % 5, (i + 1) % 5);
-            x.ends(i % 5);
-            x.who(0, 2, 0, 3, -1);
-            x.shun(i % 5);
-            x.exact(i % 5, 3, 0);
-            x.image();
-            x.restore();
-        }
-        long made = threads.getThreadAllocatedBytes(Thread.currentThread().getId()) - before;
-        check.holds("12 bytes made by 900 calls: " + made, made < 100_000);
     }
 }
