@@ -810,12 +810,14 @@ public final class HalfAsked {
             }
             Folk next = states[time + 1];
             int open = left & worthAsking(time);
-            // Every set of these, each a lesser number than the one before, down to nobody.
-            for (int some = open; some >= 0; some = some > 0 ? (some - 1) & open : -1) {
-                next.takeFrom(states[time]);
-                int more = askAll(next, some, time);
-                plan.goOn(next, time);
-                choose(time + 1, left & ~some, chosen + more);
+            // A number up to open is a set of these if it has no other bits.
+            for (int some = 0; some <= open; some++) {
+                if ((some & ~open) == 0) {
+                    next.takeFrom(states[time]);
+                    int more = askAll(next, some, time);
+                    plan.goOn(next, time);
+                    choose(time + 1, left & ~some, chosen + more);
+                }
             }
         }
 

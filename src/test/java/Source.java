@@ -33,6 +33,8 @@ import java.util.List;
 import java.util.Map;
 import java.util.Set;
 import java.util.TreeSet;
+import java.util.regex.Matcher;
+import java.util.regex.Pattern;
 import javax.lang.model.element.Element;
 import javax.lang.model.element.ExecutableElement;
 import javax.lang.model.element.Modifier;
@@ -236,25 +238,33 @@ final class Source extends TreePathScanner<Void, Void> {
 
     @Override
     public Void visitForLoop(ForLoopTree tree, Void v) {
-        loopEnds(tree, tree.getCondition());
+        StringBuilder steps = new StringBuilder();
+        tree.getUpdate().forEach(step -> steps.append(step).append(' '));
+        loopEnds(tree, tree.getCondition(), steps.toString());
         return super.visitForLoop(tree, v);
     }
 
     @Override
     public Void visitWhileLoop(WhileLoopTree tree, Void v) {
-        loopEnds(tree, tree.getCondition());
+        loopEnds(tree, tree.getCondition(), tree.getStatement().toString());
         return super.visitWhileLoop(tree, v);
     }
 
     @Override
     public Void visitDoWhileLoop(DoWhileLoopTree tree, Void v) {
-        loopEnds(tree, tree.getCondition());
+        loopEnds(tree, tree.getCondition(), tree.getStatement().toString());
         return super.visitDoWhileLoop(tree, v);
     }
 
-    /** Rule 9, as far as it can be seen: a loop holds something against a bound. */
-    private void loopEnds(Tree loop, ExpressionTree condition) {
-        if (condition == null || !condition.toString().matches("(?s).*[<>].*")) forbid("9 a loop without a bound", loop);
+    /** Rule 9, as far as it can be seen: a counter that goes by one is held against a bound on the side it goes to. */
+    private void loopEnds(Tree loop, ExpressionTree condition, String steps) {
+        boolean ends = false;
+        Matcher counter = Pattern.compile("(\\w+)(\\+\\+|--)").matcher(steps);
+        while (condition != null && counter.find()) {
+            String bound = "\\b" + counter.group(1) + (counter.group(2).equals("++") ? " <=? " : " >=? ");
+            ends |= Pattern.compile(bound).matcher(condition.toString()).find() && !condition.toString().contains("||");
+        }
+        if (!ends) forbid("9 a loop whose end can't be seen", loop);
     }
 
     /** Who calls whom: read behind all methods, as one may call another that stands below it. */
